@@ -236,20 +236,14 @@ public final class AttackGraph {
         int set = start;
         // Every round that goes on adds a fact, so as many rounds as there are facts are enough.
         for (int round = 0; round < FACTS; round++) {
-            int more = withYields(set);
-            if (more == set) {
-                break;
+            int before = set;
+            for (int r = 0; r < ruleCount && r < MAX_RULES; r++) {
+                if (isSubset(ruleNeeds[r], set)) {
+                    set = set | (1 << ruleYields[r]);
+                }
             }
-            set = more;
-        }
-        return set;
-    }
-
-    private int withYields(int start) {
-        int set = start;
-        for (int r = 0; r < ruleCount && r < MAX_RULES; r++) {
-            if (isSubset(ruleNeeds[r], set)) {
-                set = set | (1 << ruleYields[r]);
+            if (set == before) {
+                break;
             }
         }
         return set;

@@ -487,6 +487,12 @@ public final class AttackGraphPromises {
         y.rule(set(1, 2), 0);
         y.rule(set(2, 3), 0);
         due("vital() of what two ways share", y.vital(), set(2));
+
+        AttackGraph z = new AttackGraph();
+        z.give(0, 1);
+        due("vital() of the goal itself", z.vital(), set(0));
+        z.rule(0, 0);
+        due("vital() of one fact and the empty support", z.vital(), 0);
     }
 
     private static void promise17Useful() {
@@ -525,6 +531,7 @@ public final class AttackGraphPromises {
         due("shieldWith(12) from nothing", x.shieldWith(12), BAD_ARG);
         due("shieldWith(4) of all", anyOfEight(20).shieldWith(4), 160);
         due("shieldWith(11) of one", allEight(6).shieldWith(11), 6);
+        due("shieldWith(7) at the least price", allEight(1).shieldWith(7), 1);
     }
 
     private static void questionsChangeNothing() {
