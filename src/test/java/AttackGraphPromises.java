@@ -544,6 +544,31 @@ public final class AttackGraphPromises {
         }
     }
 
+    // The same calls as in README.md, so that what it shows stays true.
+    private static void exampleOfTheReadme() {
+        AttackGraph g = new AttackGraph();
+        due("README: give(1, 3)", g.give(1, 3), 0);
+        due("README: give(2, 4)", g.give(2, 4), 0);
+        due("README: give(3, 6)", g.give(3, 6), 0);
+        due("README: rule(6, 0)", g.rule(6, 0), 0);
+        due("README: rule(8, 0)", g.rule(8, 0), 1);
+        due("README: goal(0)", g.goal(0), 0);
+        due("README: reached()", g.reached(), 15);
+        due("README: supports(6)", g.supports(6), true);
+        due("README: leastSupports()", g.leastSupports(), 2);
+        due("README: cheapestSupport()", g.cheapestSupport(), 6);
+        due("README: cheapestShield()", g.cheapestShield(), 9);
+        due("README: shield()", g.shield(), 10);
+        due("README: smallestShield()", g.smallestShield(), 2);
+        due("README: vital()", g.vital(), 0);
+        due("README: useful()", g.useful(), 14);
+        due("README: shieldWith(2)", g.shieldWith(2), 10);
+        due("README: take(3)", g.take(3), 6);
+        due("README: vital() then", g.vital(), 6);
+        due("README: take(3) again", g.take(3), NONE);
+        due("README: give(12, 1)", g.give(12, 1), BAD_ARG);
+    }
+
     public static void main(String[] args) {
         promise1NewObject();
         promise2Give();
@@ -564,6 +589,7 @@ public final class AttackGraphPromises {
         promise17Useful();
         promise18ShieldWith();
         questionsChangeNothing();
+        exampleOfTheReadme();
         System.out.println(asked + " answers looked at, " + wrong + " wrong");
         if (wrong != 0) {
             System.exit(1);

@@ -191,7 +191,6 @@ public final class AttackGraphRefusals {
         return told;
     }
 
-
     private static void refused(State state, int code, String kind, int a, int b) {
         Call call = new Call(kind, a, b);
         String where = "in the object " + state + " " + call;
